@@ -1,0 +1,183 @@
+/** Promises 1 to 4: a new object, type, clear, tells. */
+public final class TextTest {
+    private static final Checks CHECKS = new Checks();
+
+    public static void main(String[] args) {
+        newObject();
+        typing();
+        clearing();
+        wholeTexts();
+        blanks();
+        faultsOfWords();
+        faultsOfFigures();
+        faultsOfEnds();
+        faultsChangeNothing();
+        tellsAnew();
+        CHECKS.end();
+    }
+
+    private static void newObject() {
+        SharedLine x = new SharedLine();
+        int[] counts = {1, 0, 2, 2, 4, 0, 0, 0};
+        for (int what = 0; what < counts.length; what++) {
+            CHECKS.due("new count(" + what + ")", x.count(what), counts[what]);
+        }
+        CHECKS.due("new tick(0, 0)", x.tick(0, 0), 0);
+        CHECKS.due("new tick(0, 1)", x.tick(0, 1), SharedLine.NONE);
+        CHECKS.due("new undo()", x.undo(), SharedLine.STATE);
+        CHECKS.due("new back(0)", x.back(0), SharedLine.STATE);
+        CHECKS.due("new back(1)", x.back(1), SharedLine.STATE);
+    }
+
+    private static void typing() {
+        SharedLine x = new SharedLine();
+        CHECKS.due("type(-1)", x.type(-1), SharedLine.BAD);
+        CHECKS.due("type(256)", x.type(256), SharedLine.BAD);
+        CHECKS.due("type(least)", x.type(Integer.MIN_VALUE), SharedLine.BAD);
+        CHECKS.due("type(most)", x.type(Integer.MAX_VALUE), SharedLine.BAD);
+        CHECKS.due("type(0)", x.type(0), 1);
+        CHECKS.due("type(255)", x.type(255), 2);
+        for (int many = 3; many <= 120; many++) {
+            CHECKS.due("type(32)", x.type(32), many);
+        }
+        CHECKS.due("type(32) of 120", x.type(32), SharedLine.FULL);
+        CHECKS.due("type(256) of 120", x.type(256), SharedLine.BAD);
+        CHECKS.due("count(6) of 120", x.count(6), 120);
+    }
+
+    private static void clearing() {
+        SharedLine x = new SharedLine();
+        CHECKS.due("clear() of nothing", x.clear(), 0);
+        Checks.typed(x, "line 1;");
+        CHECKS.due("clear()", x.clear(), 7);
+        CHECKS.due("count(6)", x.count(6), 0);
+        CHECKS.due("tells() cleared", x.tells(), -10);
+        CHECKS.due("type('w')", x.type('w'), 1);
+    }
+
+    private static void wholeTexts() {
+        tells("line 0;", 1, "0/-9 wait 2 reach 2 bar 4");
+        tells("line 0123;", 1, "0/-9 1/0 2/0 3/0 wait 2 reach 2 bar 4");
+        tells("line 123456701234;", 1,
+                "1/0 2/0 3/0 4/0 5/0 6/0 7/0 0/-9 1/0 2/0 3/0 4/0 wait 2 reach 2 bar 4");
+        tells("line 707;hands 011;", 2, "7/0 0/-9 7/1 wait 2 reach 2 bar 4");
+        tells("wait 5;line 1;reach 6;hands 1;bar 6;", 5, "1/1 wait 5 reach 6 bar 6");
+        tells("bar 2;reach 0;wait 1;line 1;", 4, "1/0 wait 1 reach 0 bar 2");
+        tells("wait 1;wait 3;line 1;wait 4;", 4, "1/0 wait 4 reach 2 bar 4");
+        tells("bar 3;line 1;bar 5;reach 1;reach 3;", 5, "1/0 wait 2 reach 3 bar 5");
+    }
+
+    private static void blanks() {
+        tells("   line   12  ;  hands  01 ;  ", 2, "1/0 2/1 wait 2 reach 2 bar 4");
+        tells("line12;hands01;wait1;", 3, "1/0 2/1 wait 1 reach 2 bar 4");
+    }
+
+    private static void faultsOfWords() {
+        fault("lines 1;", 0);
+        fault("lin 1;", 0);
+        fault("  waits 1;", 2);
+        fault("lineline 1;", 0);
+        fault("Line 1;", 0);
+        fault("linE 1;", 0);
+        fault("line 1;hand 0;", 7);
+        fault("line line 1;", 5);
+        fault("line 1; line 2;", 8);
+        fault("line 1;hands 0; hands 1;", 16);
+        fault("wait 1;hands 0;line 1;", 7);
+        fault(";", 0);
+        fault("line 1;;", 7);
+        fault("1;", 0);
+        fault("line 1; 2;", 8);
+        fault("line\t1;", 4);
+        fault("line 1;\n", 7);
+        fault("line 1" + (char) 255 + ";", 6);
+        fault("line " + (char) 0 + ";", 5);
+        fault("{ine 1;", 0);
+        fault("`ine 1;", 0);
+    }
+
+    private static void faultsOfFigures() {
+        fault("line ;", 5);
+        fault("line 8;", 5);
+        fault("line 1238;", 5);
+        fault("line 9;", 5);
+        fault("line 1 2;", 7);
+        fault("line 1x;", 6);
+        fault("line 1:;", 6);
+        fault("line 1/;", 6);
+        fault("line 1234567123456;", 5);
+        fault("line 12;hands 011;", 14);
+        fault("line 12;hands 0;", 14);
+        fault("line 12;hands 02;", 14);
+        fault("line 00;hands 02;", 14);
+        fault("line 12;hands;", 13);
+        fault("line 1;wait 0;", 12);
+        fault("line 1;wait 6;", 12);
+        fault("line 1;wait 02;", 12);
+        fault("line 1;wait 2 2;", 14);
+        fault("line 1;reach 7;", 13);
+        fault("line 1;reach 11;", 13);
+        fault("line 1;bar 1;", 11);
+        fault("line 1;bar 7;", 11);
+        fault("line 1;bar;", 10);
+        // The first TOKEN that can't stand there, though a worse one comes behind it.
+        fault("wait 9;foo", 5);
+        fault("line 1 foo 8", 7);
+    }
+
+    private static void faultsOfEnds() {
+        fault("", 0);
+        fault("   ", 3);
+        fault("line", 4);
+        fault("line  ", 6);
+        fault("line 12", 7);
+        fault("line 12  ", 9);
+        fault("wait 2;", 7);
+        fault("wait 2; ", 8);
+        fault("line 1;hands", 12);
+        fault("line 1;wait 1", 13);
+        fault("wait 2;reach 2;bar 2; wait 1;", 29);
+    }
+
+    private static void faultsChangeNothing() {
+        SharedLine x = CHECKS.told("line 12;hands 01;wait 3;reach 4;bar 5;");
+        String was = Checks.lineOf(x);
+        Checks.typed(x, "line 777;hands 111;wait 1;bar 9;");
+        CHECKS.due("tells() at fault", x.tells(), -10 - 30);
+        CHECKS.isTrue("the line stays", Checks.lineOf(x).equals(was));
+        CHECKS.due("the text stays", x.count(6), 32);
+        CHECKS.due("tells() again", x.tells(), -10 - 30);
+        CHECKS.due("no more to undo", x.count(7), 1);
+    }
+
+    private static void tellsAnew() {
+        SharedLine x = CHECKS.told("line 1234;hands 1111;wait 3;reach 4;bar 5;");
+        CHECKS.due("the text is empty", x.count(6), 0);
+        x.sees(1, 1);
+        x.keep(0);
+        Checks.typed(x, "line 0505;");
+        CHECKS.due("tells()", x.tells(), 1);
+        CHECKS.isTrue("what is not told is as at first",
+                Checks.lineOf(x).equals("0/-9 5/0 0/-9 5/0 wait 2 reach 2 bar 4"));
+        CHECKS.due("SEEN stays", x.count(5), 1);
+        CHECKS.due("both may be undone", x.count(7), 2);
+        CHECKS.due("the image stays", x.back(0), 4);
+        CHECKS.isTrue("as it was kept",
+                Checks.lineOf(x).equals("1/1 2/1 3/1 4/1 wait 3 reach 4 bar 5"));
+        String longest = "line 1;" + " ".repeat(112) + ";";
+        fault(longest, 119);
+        tells("line 1;" + " ".repeat(113), 1, "1/0 wait 2 reach 2 bar 4");
+    }
+
+    private static void tells(String text, int items, String line) {
+        SharedLine x = Checks.typed(new SharedLine(), text);
+        CHECKS.due("tells() of " + text, x.tells(), items);
+        CHECKS.isTrue(text + " tells " + line, Checks.lineOf(x).equals(line));
+    }
+
+    private static void fault(String text, int place) {
+        SharedLine x = Checks.typed(new SharedLine(), text);
+        CHECKS.due("tells() of " + text, x.tells(), -10 - place);
+        CHECKS.due("letters of " + text, x.count(6), text.length());
+    }
+}
