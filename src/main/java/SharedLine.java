@@ -5,7 +5,7 @@ public final class SharedLine {
     public static final int BAD = -1, STATE = -2, FULL = -3, NONE = -9;
     public static final int NO = -1000000, NOT = -2000000;
 
-    private static final int MOST_TICKS = 12, MOST_PITCH = 7, TABLE_BITS = 128;
+    private static final int MOST_TICKS = 12, MOST_PITCH = 7, ALL_TABLES = 128;
     private static final int MOST_LETTERS = 120, MOST_LETTER = 255;
     private static final int MOST_SEEN = 6, MOST_UNDONE = 6, IMAGES = 2;
     private static final int FAULT_BASE = -10;
@@ -185,11 +185,7 @@ public final class SharedLine {
     }
 
     public int tables(int what) {
-        if (what < 0 || what > 1) {
-            return BAD;
-        }
-        tableSet.gather(now, 0, 0);
-        return what == 0 ? tableSet.size : tableSet.least;
+        return askTables(what, 0, 0);
     }
 
     // ---- which table
@@ -219,11 +215,7 @@ public final class SharedLine {
     }
 
     public int which(int what) {
-        if (what < 0 || what > 1) {
-            return BAD;
-        }
-        tableSet.gather(now, seenOfHand0, seenOfHand1);
-        return what == 0 ? tableSet.size : tableSet.least;
+        return askTables(what, seenOfHand0, seenOfHand1);
     }
 
     public int listen() {
@@ -279,6 +271,14 @@ public final class SharedLine {
     private int mendingChanges() {
         search.lookAt(now);
         return search.find(Search.FOR_MENDED) ? Integer.bitCount(search.found ^ now.hands) : NONE;
+    }
+
+    private int askTables(int what, int ofHand0, int ofHand1) {
+        if (what < 0 || what > 1) {
+            return BAD;
+        }
+        tableSet.gather(now, ofHand0, ofHand1);
+        return what == 0 ? tableSet.size : tableSet.least;
     }
 
     private static boolean isHand(int hand) {
@@ -602,7 +602,7 @@ public final class SharedLine {
             least = NONE;
             Arrays.fill(manyOfHand1, 0);
             int unused = ~line.pitchesUsed();
-            for (int table = 0; table < TABLE_BITS; table++) {
+            for (int table = 0; table < ALL_TABLES; table++) {
                 if ((table & unused) != 0) {
                     continue;
                 }

@@ -9,6 +9,7 @@ public final class AskedTest {
         tooFarByReach();
         shares();
         likeness();
+        handsOfRests();
         busiest();
         CHECKS.end();
     }
@@ -89,6 +90,16 @@ public final class AskedTest {
         CHECKS.due("share(2) by BAR 4", x.share(2), 1);
     }
 
+    private static void handsOfRests() {
+        SharedLine x = CHECKS.told("line 10010;hands 11111;bar 3;");
+        CHECKS.due("share(3)", x.share(3), -2);
+        CHECKS.due("share(2)", x.share(2), 1);
+        CHECKS.due("busiest(1, 1)", x.busiest(1, 1), 1);
+        CHECKS.due("change()", x.change(), 0);
+        CHECKS.due("gives(0, 0)", x.gives(0, 0), 1);
+        CHECKS.due("gives(0, 1)", x.gives(0, 1), 2);
+    }
+
     private static void busiest() {
         SharedLine x = CHECKS.told("line 100110111;hands 000110001;bar 2;");
         // HAND 0: ticks 0, 6, 7; HAND 1: ticks 3, 4, 8.
@@ -101,6 +112,9 @@ public final class AskedTest {
         CHECKS.due("busiest(0, 1) by BAR 6", x.busiest(0, 1), 2);
         CHECKS.due("busiest(1, 0) by BAR 6", x.busiest(1, 0), 3);
         CHECKS.due("busiest(1, 1) by BAR 6", x.busiest(1, 1), 3);
+        SharedLine early = CHECKS.told("line 1101;bar 2;");
+        CHECKS.due("busiest(0, 0) early", early.busiest(0, 0), 0);
+        CHECKS.due("busiest(0, 1) early", early.busiest(0, 1), 2);
         SharedLine late = CHECKS.told("line 000000000001;bar 3;");
         CHECKS.due("busiest(0, 0) late", late.busiest(0, 0), 9);
         CHECKS.due("busiest(0, 1) late", late.busiest(0, 1), 1);

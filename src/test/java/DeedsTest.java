@@ -61,6 +61,10 @@ public final class DeedsTest {
         SharedLine nearer = CHECKS.told("line 1111;hands 1110;");
         CHECKS.due("mends()", nearer.mends(), 1);
         CHECKS.due("hands", Checks.hands(nearer), 0b0101);
+        // HAND 1 stays where it may: of 3 and 4 the earlier becomes HAND 0's.
+        SharedLine mostly1 = CHECKS.told("line 10011;hands 10011;");
+        CHECKS.due("mends()", mostly1.mends(), 1);
+        CHECKS.due("hands", Checks.hands(mostly1), 0b10001);
         SharedLine none = CHECKS.told("line 111;wait 3;");
         CHECKS.due("mends() with none", none.mends(), STATE);
         CHECKS.due("hands stay", Checks.hands(none), 0);

@@ -12,7 +12,9 @@ public final class RoomTest {
 
     public static void main(String[] args) {
         String text = "line 121343567121;hands 010101010101;wait 1;reach 6;bar 3;";
+        // Once ahead of measuring: what is loaded at first use does not count.
         allCalls(CHECKS.told(text));
+        made();
         SharedLine x = CHECKS.told(text);
         x.keep(0);
         x.keep(1);

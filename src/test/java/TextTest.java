@@ -75,6 +75,10 @@ public final class TextTest {
     private static void faultsOfWords() {
         fault("lines 1;", 0);
         fault("lin 1;", 0);
+        fault("linez 1;", 0);
+        fault("linea 1;", 0);
+        fault("xine 1;", 0);
+        fault("bat 1;", 0);
         fault("  waits 1;", 2);
         fault("lineline 1;", 0);
         fault("Line 1;", 0);
@@ -101,6 +105,8 @@ public final class TextTest {
         fault("line 8;", 5);
         fault("line 1238;", 5);
         fault("line 9;", 5);
+        fault("line 19;", 5);
+        fault("line 1234567890123;", 5);
         fault("line 1 2;", 7);
         fault("line 1x;", 6);
         fault("line 1:;", 6);
