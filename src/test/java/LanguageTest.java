@@ -19,15 +19,23 @@ public final class LanguageTest {
             "which(int)", "listen()", "keep(int)", "back(int)", "count(int)");
     private static final Set<String> CONSTANTS =
             Set.of("BAD", "STATE", "FULL", "NONE", "NO", "NOT");
+    private static final Set<String> CONSTANT_TYPES = Set.of("int", "long", "boolean", "char",
+            "String", "int[]", "long[]", "char[]", "byte[]");
     private static final String[] RULED_OUT = {
         "throw", "throws", "try", "catch", "finally", "synchronized", "assert", "->", "::",
         "volatile", "transient", "Exact", "HashMap", "Object", "Thread", "System\\.(?!arraycopy)"};
+    // Beside the program's own classes; no other name that begins like a class's may stand there.
+    private static final Set<String> LIBRARY =
+            Set.of("String", "StringBuilder", "Integer", "Long", "Math", "System", "Arrays",
+            "ArrayList", "List", "Iterator", "Iterable", "Comparable");
     private static final int MOST_LINES = 60;
+    private static final int MOST_FIELDS = 20;
     private static final Checks CHECKS = new Checks();
 
     public static void main(String[] args) throws Exception {
         face();
         constants();
+        fields(SharedLine.class);
         classesInside();
         source();
         CHECKS.end();
@@ -78,6 +86,7 @@ public final class LanguageTest {
             CHECKS.isTrue(one + " is static", Modifier.isStatic(one.getModifiers()));
             CHECKS.isTrue(one + " is not open", !Modifier.isPublic(one.getModifiers())
                     && !Modifier.isProtected(one.getModifiers()));
+            fields(one);
             for (Method method : one.getDeclaredMethods()) {
                 CHECKS.isTrue(method + " has no name of the face",
                         FACE.stream().noneMatch(f -> f.startsWith(method.getName() + "(")));
@@ -89,6 +98,32 @@ public final class LanguageTest {
             CHECKS.isTrue(method + " private, with no name of the face",
                     !Modifier.isPrivate(method.getModifiers())
                     || FACE.stream().noneMatch(f -> f.startsWith(method.getName() + "(")));
+        }
+    }
+
+    /** Static ones are constants, of the types that rule 5 lists; the others are few. */
+    private static void fields(Class<?> one) {
+        int own = 0;
+        for (Field field : one.getDeclaredFields()) {
+            boolean isStatic = Modifier.isStatic(field.getModifiers());
+            own += isStatic ? 0 : 1;
+            CHECKS.isTrue(field + " is a constant where static", !isStatic
+                    || Modifier.isFinal(field.getModifiers())
+                    && CONSTANT_TYPES.contains(field.getType().getSimpleName()));
+        }
+        CHECKS.isTrue(one + " has few fields", own <= MOST_FIELDS);
+    }
+
+    private static void libraryNames(String code) {
+        Set<String> own = new TreeSet<>(Set.of("SharedLine"));
+        for (Class<?> one : SharedLine.class.getDeclaredClasses()) {
+            own.add(one.getSimpleName());
+        }
+        Matcher name = Pattern.compile("\\b[A-Z]\\w*[a-z]\\w*")
+                .matcher(code.replaceAll("\"[^\"\n]*\"", ""));
+        while (name.find()) {
+            CHECKS.isTrue("known to the language: " + name.group(),
+                    own.contains(name.group()) || LIBRARY.contains(name.group()));
         }
     }
 
@@ -105,6 +140,7 @@ public final class LanguageTest {
         CHECKS.isTrue("imports from java.util alone",
                 !Pattern.compile("import (?!java\\.util\\.(Arrays|ArrayList|List);)")
                         .matcher(code).find());
+        libraryNames(code);
         methodLengths(source);
     }
 

@@ -56,93 +56,93 @@ public final class TextTest {
     }
 
     private static void wholeTexts() {
-        tells("line 0;", 1, "0/-9 wait 2 reach 2 bar 4");
-        tells("line 0123;", 1, "0/-9 1/0 2/0 3/0 wait 2 reach 2 bar 4");
-        tells("line 123456701234;", 1,
+        CHECKS.tells("line 0;", 1, "0/-9 wait 2 reach 2 bar 4");
+        CHECKS.tells("line 0123;", 1, "0/-9 1/0 2/0 3/0 wait 2 reach 2 bar 4");
+        CHECKS.tells("line 123456701234;", 1,
                 "1/0 2/0 3/0 4/0 5/0 6/0 7/0 0/-9 1/0 2/0 3/0 4/0 wait 2 reach 2 bar 4");
-        tells("line 707;hands 011;", 2, "7/0 0/-9 7/1 wait 2 reach 2 bar 4");
-        tells("wait 5;line 1;reach 6;hands 1;bar 6;", 5, "1/1 wait 5 reach 6 bar 6");
-        tells("bar 2;reach 0;wait 1;line 1;", 4, "1/0 wait 1 reach 0 bar 2");
-        tells("wait 1;wait 3;line 1;wait 4;", 4, "1/0 wait 4 reach 2 bar 4");
-        tells("bar 3;line 1;bar 5;reach 1;reach 3;", 5, "1/0 wait 2 reach 3 bar 5");
+        CHECKS.tells("line 707;hands 011;", 2, "7/0 0/-9 7/1 wait 2 reach 2 bar 4");
+        CHECKS.tells("wait 5;line 1;reach 6;hands 1;bar 6;", 5, "1/1 wait 5 reach 6 bar 6");
+        CHECKS.tells("bar 2;reach 0;wait 1;line 1;", 4, "1/0 wait 1 reach 0 bar 2");
+        CHECKS.tells("wait 1;wait 3;line 1;wait 4;", 4, "1/0 wait 4 reach 2 bar 4");
+        CHECKS.tells("bar 3;line 1;bar 5;reach 1;reach 3;", 5, "1/0 wait 2 reach 3 bar 5");
     }
 
     private static void blanks() {
-        tells("   line   12  ;  hands  01 ;  ", 2, "1/0 2/1 wait 2 reach 2 bar 4");
-        tells("line12;hands01;wait1;", 3, "1/0 2/1 wait 1 reach 2 bar 4");
+        CHECKS.tells("   line   12  ;  hands  01 ;  ", 2, "1/0 2/1 wait 2 reach 2 bar 4");
+        CHECKS.tells("line12;hands01;wait1;", 3, "1/0 2/1 wait 1 reach 2 bar 4");
     }
 
     private static void faultsOfWords() {
-        fault("lines 1;", 0);
-        fault("lin 1;", 0);
-        fault("linez 1;", 0);
-        fault("linea 1;", 0);
-        fault("xine 1;", 0);
-        fault("bat 1;", 0);
-        fault("  waits 1;", 2);
-        fault("lineline 1;", 0);
-        fault("Line 1;", 0);
-        fault("linE 1;", 0);
-        fault("line 1;hand 0;", 7);
-        fault("line line 1;", 5);
-        fault("line 1; line 2;", 8);
-        fault("line 1;hands 0; hands 1;", 16);
-        fault("wait 1;hands 0;line 1;", 7);
-        fault(";", 0);
-        fault("line 1;;", 7);
-        fault("1;", 0);
-        fault("line 1; 2;", 8);
-        fault("line\t1;", 4);
-        fault("line 1;\n", 7);
-        fault("line 1" + (char) 255 + ";", 6);
-        fault("line " + (char) 0 + ";", 5);
-        fault("{ine 1;", 0);
-        fault("`ine 1;", 0);
+        CHECKS.fault("lines 1;", 0);
+        CHECKS.fault("lin 1;", 0);
+        CHECKS.fault("linez 1;", 0);
+        CHECKS.fault("linea 1;", 0);
+        CHECKS.fault("xine 1;", 0);
+        CHECKS.fault("bat 1;", 0);
+        CHECKS.fault("  waits 1;", 2);
+        CHECKS.fault("lineline 1;", 0);
+        CHECKS.fault("Line 1;", 0);
+        CHECKS.fault("linE 1;", 0);
+        CHECKS.fault("line 1;hand 0;", 7);
+        CHECKS.fault("line line 1;", 5);
+        CHECKS.fault("line 1; line 2;", 8);
+        CHECKS.fault("line 1;hands 0; hands 1;", 16);
+        CHECKS.fault("wait 1;hands 0;line 1;", 7);
+        CHECKS.fault(";", 0);
+        CHECKS.fault("line 1;;", 7);
+        CHECKS.fault("1;", 0);
+        CHECKS.fault("line 1; 2;", 8);
+        CHECKS.fault("line\t1;", 4);
+        CHECKS.fault("line 1;\n", 7);
+        CHECKS.fault("line 1" + (char) 255 + ";", 6);
+        CHECKS.fault("line " + (char) 0 + ";", 5);
+        CHECKS.fault("{ine 1;", 0);
+        CHECKS.fault("`ine 1;", 0);
     }
 
     private static void faultsOfFigures() {
-        fault("line ;", 5);
-        fault("line 8;", 5);
-        fault("line 1238;", 5);
-        fault("line 9;", 5);
-        fault("line 19;", 5);
-        fault("line 1234567890123;", 5);
-        fault("line 1 2;", 7);
-        fault("line 1x;", 6);
-        fault("line 1:;", 6);
-        fault("line 1/;", 6);
-        fault("line 1234567123456;", 5);
-        fault("line 12;hands 011;", 14);
-        fault("line 12;hands 0;", 14);
-        fault("line 12;hands 02;", 14);
-        fault("line 00;hands 02;", 14);
-        fault("line 12;hands;", 13);
-        fault("line 1;wait 0;", 12);
-        fault("line 1;wait 6;", 12);
-        fault("line 1;wait 02;", 12);
-        fault("line 1;wait 2 2;", 14);
-        fault("line 1;reach 7;", 13);
-        fault("line 1;reach 11;", 13);
-        fault("line 1;bar 1;", 11);
-        fault("line 1;bar 7;", 11);
-        fault("line 1;bar;", 10);
+        CHECKS.fault("line ;", 5);
+        CHECKS.fault("line 8;", 5);
+        CHECKS.fault("line 1238;", 5);
+        CHECKS.fault("line 9;", 5);
+        CHECKS.fault("line 19;", 5);
+        CHECKS.fault("line 1234567890123;", 5);
+        CHECKS.fault("line 1 2;", 7);
+        CHECKS.fault("line 1x;", 6);
+        CHECKS.fault("line 1:;", 6);
+        CHECKS.fault("line 1/;", 6);
+        CHECKS.fault("line 1234567123456;", 5);
+        CHECKS.fault("line 12;hands 011;", 14);
+        CHECKS.fault("line 12;hands 0;", 14);
+        CHECKS.fault("line 12;hands 02;", 14);
+        CHECKS.fault("line 00;hands 02;", 14);
+        CHECKS.fault("line 12;hands;", 13);
+        CHECKS.fault("line 1;wait 0;", 12);
+        CHECKS.fault("line 1;wait 6;", 12);
+        CHECKS.fault("line 1;wait 02;", 12);
+        CHECKS.fault("line 1;wait 2 2;", 14);
+        CHECKS.fault("line 1;reach 7;", 13);
+        CHECKS.fault("line 1;reach 11;", 13);
+        CHECKS.fault("line 1;bar 1;", 11);
+        CHECKS.fault("line 1;bar 7;", 11);
+        CHECKS.fault("line 1;bar;", 10);
         // The first TOKEN that can't stand there, though a worse one comes behind it.
-        fault("wait 9;foo", 5);
-        fault("line 1 foo 8", 7);
+        CHECKS.fault("wait 9;foo", 5);
+        CHECKS.fault("line 1 foo 8", 7);
     }
 
     private static void faultsOfEnds() {
-        fault("", 0);
-        fault("   ", 3);
-        fault("line", 4);
-        fault("line  ", 6);
-        fault("line 12", 7);
-        fault("line 12  ", 9);
-        fault("wait 2;", 7);
-        fault("wait 2; ", 8);
-        fault("line 1;hands", 12);
-        fault("line 1;wait 1", 13);
-        fault("wait 2;reach 2;bar 2; wait 1;", 29);
+        CHECKS.fault("", 0);
+        CHECKS.fault("   ", 3);
+        CHECKS.fault("line", 4);
+        CHECKS.fault("line  ", 6);
+        CHECKS.fault("line 12", 7);
+        CHECKS.fault("line 12  ", 9);
+        CHECKS.fault("wait 2;", 7);
+        CHECKS.fault("wait 2; ", 8);
+        CHECKS.fault("line 1;hands", 12);
+        CHECKS.fault("line 1;wait 1", 13);
+        CHECKS.fault("wait 2;reach 2;bar 2; wait 1;", 29);
     }
 
     private static void faultsChangeNothing() {
@@ -171,19 +171,7 @@ public final class TextTest {
         CHECKS.isTrue("as it was kept",
                 Checks.lineOf(x).equals("1/1 2/1 3/1 4/1 wait 3 reach 4 bar 5"));
         String longest = "line 1;" + " ".repeat(112) + ";";
-        fault(longest, 119);
-        tells("line 1;" + " ".repeat(113), 1, "1/0 wait 2 reach 2 bar 4");
-    }
-
-    private static void tells(String text, int items, String line) {
-        SharedLine x = Checks.typed(new SharedLine(), text);
-        CHECKS.due("tells() of " + text, x.tells(), items);
-        CHECKS.isTrue(text + " tells " + line, Checks.lineOf(x).equals(line));
-    }
-
-    private static void fault(String text, int place) {
-        SharedLine x = Checks.typed(new SharedLine(), text);
-        CHECKS.due("tells() of " + text, x.tells(), -10 - place);
-        CHECKS.due("letters of " + text, x.count(6), text.length());
+        CHECKS.fault(longest, 119);
+        CHECKS.tells("line 1;" + " ".repeat(113), 1, "1/0 wait 2 reach 2 bar 4");
     }
 }
